@@ -174,7 +174,7 @@ public final class StreetDreams {
     }
 
     /** Promise 3. */
-    public int street(int n) {
+    public int street(int n) throws IllegalArgumentException {
         needThat(n >= 0 && n <= tape.filled);
         tape.begin(n);
         spareStreet.read(tape);
@@ -194,7 +194,7 @@ public final class StreetDreams {
     }
 
     /** Promise 4. */
-    public int will(int dreamer, int n) {
+    public int will(int dreamer, int n) throws NoSuchElementException, IllegalArgumentException {
         needOne(dreamer, now.dreamers);
         needThat(n >= 0 && n <= tape.filled && n <= SMALL_TEXT_MOST);
         tape.begin(n);
@@ -210,7 +210,7 @@ public final class StreetDreams {
     }
 
     /** Promise 5. */
-    public int book(int n) {
+    public int book(int n) throws IllegalArgumentException {
         needThat(n >= 0 && n <= tape.filled && n <= SMALL_TEXT_MOST);
         tape.begin(n);
         spareBook.read(tape);
@@ -238,7 +238,7 @@ public final class StreetDreams {
     // ---- what was told
 
     /** Promise 7. */
-    public int told(int what) {
+    public int told(int what) throws IllegalArgumentException {
         needWhat(what, 7);
         switch (what) {
             case 0:
@@ -261,7 +261,7 @@ public final class StreetDreams {
     }
 
     /** Promise 8. */
-    public int sleeper(int sleeper, int what) {
+    public int sleeper(int sleeper, int what) throws NoSuchElementException, IllegalArgumentException {
         needOne(sleeper, now.sleepers);
         needWhat(what, 3);
         switch (what) {
@@ -277,7 +277,7 @@ public final class StreetDreams {
     }
 
     /** Promise 9. */
-    public int door(int door, int what) {
+    public int door(int door, int what) throws NoSuchElementException, IllegalArgumentException {
         needOne(door, now.doors);
         needWhat(what, 3);
         switch (what) {
@@ -293,7 +293,7 @@ public final class StreetDreams {
     }
 
     /** Promise 10. */
-    public int noise(int i, int what) {
+    public int noise(int i, int what) throws IllegalArgumentException {
         needWhat(what, 1);
         if (i < 0 || i >= now.plan.noises) {
             return NONE;
@@ -304,35 +304,35 @@ public final class StreetDreams {
     // ---- the night
 
     /** Promise 11. */
-    public boolean sleeps(int sleeper, int minute) {
+    public boolean sleeps(int sleeper, int minute) throws NoSuchElementException, IllegalArgumentException {
         needOne(sleeper, now.sleepers);
         needMinute(minute);
         return (freshHours().asleep[minute] >> sleeper & 1) != 0;
     }
 
     /** Promise 12. */
-    public boolean there(int room, int minute) {
+    public boolean there(int room, int minute) throws IndexOutOfBoundsException, IllegalArgumentException {
         needRoom(room);
         needMinute(minute);
         return (freshHours().there[minute] >> room & 1) != 0;
     }
 
     /** Promise 13. */
-    public boolean open(int door, int minute) {
+    public boolean open(int door, int minute) throws NoSuchElementException, IllegalArgumentException {
         needOne(door, now.doors);
         needMinute(minute);
         return (freshNight().doorRow[minute] >> door & 1) != 0;
     }
 
     /** Promise 14. */
-    public int where(int dreamer, int minute) {
+    public int where(int dreamer, int minute) throws NoSuchElementException, IllegalArgumentException {
         needOne(dreamer, now.dreamers);
         needMinute(minute);
         return freshNight().placeOf(dreamer, minute);
     }
 
     /** Promise 15. */
-    public int night(int dreamer, int what) {
+    public int night(int dreamer, int what) throws NoSuchElementException, IllegalArgumentException {
         needOne(dreamer, now.dreamers);
         needWhat(what, 5);
         Walker w = freshNight().walkers[dreamer];
@@ -360,35 +360,35 @@ public final class StreetDreams {
     // ---- ways
 
     /** Promise 17. */
-    public int cut(int room, int minute) {
+    public int cut(int room, int minute) throws IndexOutOfBoundsException, IllegalArgumentException {
         needRoom(room);
         needMinute(minute);
         return ways.cutFrom(now, freshHours(), room, minute);
     }
 
     /** Promise 18. */
-    public int soonest(int a, int minute, int b) {
+    public int soonest(int a, int minute, int b) throws IndexOutOfBoundsException, IllegalArgumentException {
         needRooms(a, b);
         needMinute(minute);
         return ways.first(now, freshHours(), 0, a, minute, b);
     }
 
     /** Promise 19. */
-    public int way(int a, int minute, int b, int t) {
+    public int way(int a, int minute, int b, int t) throws IndexOutOfBoundsException, IllegalArgumentException {
         needRooms(a, b);
         needThat(isMinute(minute) && isMinute(t));
         return ways.roomIn(now, freshHours(), a, minute, b, t);
     }
 
     /** Promise 20. */
-    public int latest(int a, int b, int minute) {
+    public int latest(int a, int b, int minute) throws IndexOutOfBoundsException, IllegalArgumentException {
         needRooms(a, b);
         needMinute(minute);
         return ways.lastStart(now, freshHours(), a, b, minute);
     }
 
     /** Promise 21. */
-    public int keep(int sleepers) {
+    public int keep(int sleepers) throws IllegalArgumentException {
         needThat(within(sleepers, now.sleepers));
         int old = now.plan.kept;
         now.plan.kept = sleepers;
@@ -397,21 +397,21 @@ public final class StreetDreams {
     }
 
     /** Promise 22. */
-    public int fewest(int a, int minute, int b) {
+    public int fewest(int a, int minute, int b) throws IndexOutOfBoundsException, IllegalArgumentException {
         needRooms(a, b);
         needMinute(minute);
         return ways.leastSet(now, freshHours(), a, b, minute, false);
     }
 
     /** Promise 23. */
-    public int meet(int a, int b, int minute) {
+    public int meet(int a, int b, int minute) throws IndexOutOfBoundsException, IllegalArgumentException {
         needRooms(a, b);
         needMinute(minute);
         return ways.leastSet(now, freshHours(), a, b, minute, true);
     }
 
     /** Promise 24. */
-    public int met(int a, int b, int minute) {
+    public int met(int a, int b, int minute) throws IndexOutOfBoundsException, IllegalArgumentException {
         needRooms(a, b);
         needMinute(minute);
         return ways.together(now, freshHours(), 0, a, b, minute);
@@ -420,7 +420,7 @@ public final class StreetDreams {
     // ---- noises, lines, odds
 
     /** Promise 25. */
-    public int order(int open, int shut, int what) {
+    public int order(int open, int shut, int what) throws IllegalArgumentException {
         needThat(within(open, now.doors) && within(shut, now.doors) && (open & shut) == 0);
         needWhat(what, 1);
         int set = puzzle.leastSorts(now, open, shut);
@@ -443,7 +443,7 @@ public final class StreetDreams {
     }
 
     /** Promise 27. */
-    public int want(int n, int what) {
+    public int want(int n, int what) throws IllegalArgumentException {
         needThat(n >= 0 && n <= 8);
         needWhat(what, 1);
         puzzle.playOut(now, n);
@@ -451,7 +451,7 @@ public final class StreetDreams {
     }
 
     /** Promise 28. */
-    public long surest(int a, int b, int what) {
+    public long surest(int a, int b, int what) throws IndexOutOfBoundsException, IllegalArgumentException {
         needRooms(a, b);
         needWhat(what, 3);
         walks.seek(now, a, b);
@@ -471,7 +471,7 @@ public final class StreetDreams {
     }
 
     /** Promise 29. */
-    public int drawn(int seed, int what) {
+    public int drawn(int seed, int what) throws IllegalArgumentException {
         needWhat(what, 2);
         Hours h = freshHours();
         int woken = h.draw(now, seed);
@@ -486,7 +486,7 @@ public final class StreetDreams {
     }
 
     /** Promise 30. */
-    public int span(int seed, int many, int what) {
+    public int span(int seed, int many, int what) throws IllegalArgumentException {
         needThat(many >= 1 && many <= 20);
         needWhat(what, 2);
         Hours h = freshHours();
@@ -495,16 +495,16 @@ public final class StreetDreams {
         int nobody = 0;
         for (int i = 0; i < many; i++) {
             h.draw(now, seed + i);
-            int many1 = Integer.bitCount(trialLost(h.trial, 0));
-            least = Math.min(least, many1);
-            most = Math.max(most, many1);
-            nobody += many1 == 0 ? 1 : 0;
+            int gone = Integer.bitCount(trialLost(h.trial, 0));
+            least = Math.min(least, gone);
+            most = Math.max(most, gone);
+            nobody += gone == 0 ? 1 : 0;
         }
         return what == 0 ? least : what == 1 ? most : nobody;
     }
 
     /** Promise 31. */
-    public int round(int what) {
+    public int round(int what) throws IllegalArgumentException, IllegalStateException {
         needWhat(what, 1);
         if (now.sleepers > ROUND_MOST) {
             refused[REFUSED_STATE]++;
@@ -519,7 +519,7 @@ public final class StreetDreams {
         Hours h = freshHours();
         h.firstOrder();
         if (now.milk < 0) {
-            return Integer.bitCount(lost()) * ORDER_DIGITS + h.orderDigits(now.sleepers);
+            return Integer.bitCount(freshNight().lostBits(now)) * ORDER_DIGITS + h.orderDigits(now.sleepers);
         }
         // No order changes anything ahead of the milkman's first minute, so that part is played once.
         trialNight.begin(now);
@@ -554,19 +554,19 @@ public final class StreetDreams {
     // ---- counts over the night
 
     /** Promise 32. */
-    public int asleep(int minute) {
+    public int asleep(int minute) throws IllegalArgumentException {
         needMinute(minute);
         return freshHours().asleep[minute];
     }
 
     /** Promise 33. */
-    public int rooms(int minute) {
+    public int rooms(int minute) throws IllegalArgumentException {
         needMinute(minute);
         return freshHours().there[minute];
     }
 
     /** Promise 34. */
-    public int lasting(int room, int what) {
+    public int lasting(int room, int what) throws IndexOutOfBoundsException, IllegalArgumentException {
         needRoom(room);
         needWhat(what, 1);
         int[] row = freshHours().there;
@@ -584,14 +584,14 @@ public final class StreetDreams {
     }
 
     /** Promise 35. */
-    public int reach(int room, int minute, int to) {
+    public int reach(int room, int minute, int to) throws IndexOutOfBoundsException, IllegalArgumentException {
         needRoom(room);
         needThat(isMinute(minute) && isMinute(to) && minute <= to);
         return ways.reached(now, freshHours(), room, minute, to);
     }
 
     /** Promise 36. */
-    public int far(int a, int b) {
+    public int far(int a, int b) throws IndexOutOfBoundsException {
         needRooms(a, b);
         return walks.doorsBetween(now, a, b);
     }
@@ -602,7 +602,7 @@ public final class StreetDreams {
     }
 
     /** Promise 38. */
-    public int lonely(int room) {
+    public int lonely(int room) throws IndexOutOfBoundsException {
         needRoom(room);
         int[] row = freshHours().there;
         Night n = freshNight();
@@ -631,7 +631,7 @@ public final class StreetDreams {
     }
 
     /** Promise 40. */
-    public int crowd(int what) {
+    public int crowd(int what) throws IllegalArgumentException {
         needWhat(what, 1);
         Night n = freshNight();
         int most = 0;
@@ -649,7 +649,7 @@ public final class StreetDreams {
     }
 
     /** Promise 41. */
-    public int often(int door) {
+    public int often(int door) throws NoSuchElementException {
         needOne(door, now.doors);
         int[] row = freshHours().doors;
         int minutes = 0;
@@ -677,7 +677,7 @@ public final class StreetDreams {
     }
 
     /** Promise 43. */
-    public int stranded(int minute) {
+    public int stranded(int minute) throws IllegalArgumentException {
         needMinute(minute);
         return ways.strandedIn(now, freshHours(), minute);
     }
@@ -685,7 +685,7 @@ public final class StreetDreams {
     // ---- changes and images
 
     /** Promise 44. */
-    public int make(int minute, int sort) {
+    public int make(int minute, int sort) throws IllegalArgumentException {
         needThat(isMinute(minute) && sort >= 0 && sort < SORTS);
         if (!now.plan.addNoise(minute, sort)) {
             return -1;
@@ -704,7 +704,7 @@ public final class StreetDreams {
     }
 
     /** Promise 46. */
-    public int sleep(int sleeper, int from, int to) {
+    public int sleep(int sleeper, int from, int to) throws NoSuchElementException, IllegalArgumentException {
         needOne(sleeper, now.sleepers);
         needThat(isMinute(from) && isMinute(to) && from <= to);
         if (!now.plan.moveSleep(sleeper, from, to)) {
@@ -1250,6 +1250,7 @@ public final class StreetDreams {
 
     /** A will as rows of deeds; the end of a block is a deed of its own. */
     private static final class Will {
+        // The first three take the minute; a jump takes neither time nor a turn.
         private static final int TO = 0;
         private static final int WAIT = 1;
         private static final int CALL = 2;
@@ -1445,7 +1446,7 @@ public final class StreetDreams {
             Arrays.fill(asleep, s.plan.kept);
             for (int k = 0; k < s.sleepers; k++) {
                 end[k] = s.milk < 0 ? s.plan.until[k] : Math.min(s.plan.until[k], s.milk + k);
-                for (int m = s.plan.from[k]; m < end[k]; m++) {
+                for (int m = s.plan.from[k]; m < end[k] && m < MINUTES; m++) {
                     asleep[m] |= 1 << k;
                 }
             }
@@ -1835,35 +1836,30 @@ public final class StreetDreams {
                 return;
             }
             w.turns = 0;
-            boolean free = true;
-            for (int i = 0; i < DEEDS_MOST && free && w.at >= 0 && w.at < will.size; i++) {
-                free = doDeed(s, w, will);
+            for (int i = 0; i < DEEDS_MOST && w.at >= 0 && w.at < will.size; i++) {
+                int deed = will.deed[w.at];
+                if (deed <= Will.CALL) {
+                    takeMinute(s, w, deed, will.number[w.at]);
+                    return;
+                }
+                if (deed != Will.JUMP && w.turns >= TURNS_MOST) {
+                    w.stuck = true;
+                    return;
+                }
+                doTurn(s, w, will);
             }
         }
 
-        /** Whether he has time for more in this minute. */
-        private boolean doDeed(Street s, Walker w, Will will) {
-            int number = will.number[w.at];
-            switch (will.deed[w.at]) {
-                case Will.TO:
-                    go(s, w, number);
-                    w.at++;
-                    return false;
-                case Will.WAIT:
-                    w.waits = number - 1;
-                    w.at++;
-                    return false;
-                case Will.CALL:
-                    doors ^= s.turns[number];
-                    w.called++;
-                    w.at++;
-                    return false;
-                case Will.JUMP:
-                    w.at = will.target[w.at];
-                    return true;
-                default:
-                    return doTurn(s, w, will);
+        private void takeMinute(Street s, Walker w, int deed, int number) {
+            if (deed == Will.TO) {
+                go(s, w, number);
+            } else if (deed == Will.WAIT) {
+                w.waits = number - 1;
+            } else {
+                doors ^= s.turns[number];
+                w.called++;
             }
+            w.at++;
         }
 
         private void go(Street s, Walker w, int room) {
@@ -1875,14 +1871,10 @@ public final class StreetDreams {
             }
         }
 
-        private boolean doTurn(Street s, Walker w, Will will) {
-            if (w.turns >= TURNS_MOST) {
-                w.stuck = true;
-                return false;
-            }
-            w.turns++;
+        private void doTurn(Street s, Walker w, Will will) {
             int at = w.at;
             int slot = Math.min(will.detail[at], BLOCKS_MOST - 1);
+            w.turns += will.deed[at] == Will.JUMP ? 0 : 1;
             switch (will.deed[at]) {
                 case Will.AGAIN:
                     w.left[slot] = will.number[at];
@@ -1895,11 +1887,13 @@ public final class StreetDreams {
                 case Will.UNTIL:
                     w.at = isSo(s, w, will) ? will.target[at] : at + 1;
                     break;
-                default:
+                case Will.IF:
                     w.at = isSo(s, w, will) ? at + 1 : will.target[at];
                     break;
+                default:
+                    w.at = will.target[at];
+                    break;
             }
-            return true;
         }
 
         private boolean isSo(Street s, Walker w, Will will) {
