@@ -2042,9 +2042,8 @@ public final class StreetDreams {
 
         private void compare(int length, long product, int digits) {
             long scaled = product << 4 * (SLEEPERS_MOST - length);
-            boolean shorter = scaled == bestScaled && length < bestLength;
-            boolean earlier = scaled == bestScaled && length == bestLength && digits < bestDigits;
-            if (scaled > bestScaled || shorter || earlier) {
+            // Rooms are tried from the least on, so of ways that are alike the first one stands already.
+            if (scaled > bestScaled || scaled == bestScaled && length < bestLength) {
                 bestScaled = scaled;
                 bestProduct = product;
                 bestLength = length;

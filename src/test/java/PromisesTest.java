@@ -153,6 +153,17 @@ public final class PromisesTest {
         due("at the end", x.fault(), 34);
         due("no blanks between", street(x, "sleeper0 9 1;milk00000000000000000300;"), 1);
         due("milk", x.told(5), 300);
+        due("no sign behind the n-th", feed(x, "milk 5;").street(6), -9);
+        due("no digit behind it", feed(x, "milk 5;milk 12;").street(13), -9);
+        due("at the length", x.fault(), 13);
+        due("no letter behind it", feed(x, "milk 5;milk 12;").street(10), -9);
+        due("at the word", x.fault(), 7);
+        due("no blank behind it", feed(x, "milk   5;").street(5), -9);
+        due("at the length", x.fault(), 5);
+        due("what was asked of the street ahead is gone", street(x, "sleeper 7 9 0;dreamer 0 8;"), 1);
+        due("there", x.rooms(7) * 10 + x.where(0, 8), 10);
+        street(x, "sleeper 0 7 0;dreamer 0 0;");
+        due("there", x.rooms(7) * 10 + x.where(0, 6), 0);
         faultsOfStreets();
         limitsOfStreets();
     }
@@ -168,6 +179,7 @@ public final class PromisesTest {
         streetFault("sleeper", 1, 7);
         streetFault("sleeper x", 1, 8);
         streetFault("sleepers 1;", 1, 0);
+        streetFault("milkz 5;", 1, 0);
         streetFault(" Sleeper 1;", 1, 1);
         streetFault("milk 5;;", 1, 7);
         streetFault("milk 5;7", 1, 7);
@@ -230,6 +242,7 @@ public final class PromisesTest {
         due("none", will(x, 0, ""), 0);
         due("its calls", x.night(0, 3), 0);
         due("all words", will(x, 0, "until in 1[];until open 2[];until not after 300[];if met[]else[];  "), 4);
+        due("least and most", will(x, 0, "wait 1;wait 99;to 0;to 2;call 0;call 5;if in 0[];if open 0[];if there 0[];if after 0[];"), 10);
         due("six blocks", will(x, 0, times(6, "again 0[") + times(6, "];")), 6);
         due("six nots", will(x, 0, "if not not not not not not met[];if not met[];"), 2);
         due("else beside six", will(x, 0, times(5, "if met[") + "if met[]else[];" + times(5, "];")), 6);
@@ -264,6 +277,7 @@ public final class PromisesTest {
     private static void p5() {
         StreetDreams x = on(SMALL);
         due("lines", book(x, "seen 5;  gone 60 ;"), 2);
+        due("least and most", book(x, "seen 0;gone 300;"), 2);
         due("a fault leaves the book", book(x, "soon 1;"), -9);
         due("told", x.told(7), 2);
         due("too large", book(x, "seen 301;"), -8);
@@ -356,6 +370,7 @@ public final class PromisesTest {
         due("never", x.sleeps(2, 7), false);
         due("in his minute 52 he is woken", x.sleeps(3, 51), true);
         due("in his minute 52 he is woken", x.sleeps(3, 52), false);
+        due("woken in the first minute", on("sleeper 0 9 0;sleeper 0 9 0;milk 0;").asleep(0), 2);
         x.keep(4);
         due("kept", x.sleeps(2, 0) && x.sleeps(2, 300), true);
         refuses("no sleeper, ahead of the minute", ELEMENT, () -> x.sleeps(4, 301) ? 1 : 0);
@@ -493,6 +508,9 @@ public final class PromisesTest {
         due("from the other side", x.cut(3, 40), 1);
         due("from one that is gone", x.cut(1, 40), 13);
         due("none there", x.cut(1, 90), 0);
+        StreetDreams y = on("sleeper 0 9 0;sleeper 0 20 0;sleeper 0 20 0;door 0 1 1;door 0 2 1;");
+        due("room 0 is gone", y.cut(0, 10), 6);
+        due("room 0 is gone between them", y.cut(1, 10), 4);
         refuses("no room, ahead of the minute", INDEX, () -> x.cut(4, 301));
         refuses("minute", ARGUMENT, () -> x.cut(0, 301));
     }
@@ -507,6 +525,14 @@ public final class PromisesTest {
         due("in it", x.soonest(0, 7, 0), 7);
         due("not there yet", x.soonest(2, 9, 2), -1);
         due("never", x.soonest(0, 60, 1), -1);
+        due("room 0 is gone", x.soonest(0, 100, 0), -1);
+        x.keep(6);
+        due("in the last minute", x.soonest(2, 300, 2), 300);
+        due("not any more", x.soonest(2, 300, 1), -1);
+        x.keep(0);
+        StreetDreams last = on("sleeper 0 0 0;sleeper 0 0 0;door 0 1 0;turns 0 0;noise 300 0;");
+        last.keep(3);
+        due("reached in the last minute", last.soonest(0, 3, 1), 300);
         StreetDreams y = on("sleeper 0 300 0;sleeper 0 300 0;door 0 1 0;turns 0 0;noise 30 0;noise 31 0;");
         due("the one minute in which it is open", y.soonest(0, 3, 1), 30);
         due("too late", y.soonest(0, 30, 1), -1);
@@ -530,6 +556,13 @@ public final class PromisesTest {
         due("in it", x.way(1, 5, 1, 5), 1);
         StreetDreams y = on(SMALL);
         due("none", y.way(0, 60, 1, 60), -1);
+        due("room 0 is not there", y.way(0, 100, 0, 100), -1);
+        due("through no room that is gone", y.way(1, 0, 2, 9), 0);
+        StreetDreams z = on("sleeper 0 6 0;sleeper 0 20 0;sleeper 0 20 0;door 0 1 1;door 0 2 0;door 1 2 0;turns 0 1;"
+            + "turns 0 2;noise 10 0;");
+        due("the least room while it is there", z.way(1, 3, 2, 5), 0);
+        due("out of it as it goes", z.way(1, 3, 2, 6), 1);
+        due("and not back", z.way(1, 3, 2, 9), 1);
         refuses("no room, ahead of minutes", INDEX, () -> x.way(4, 301, 0, 301));
         refuses("minute", ARGUMENT, () -> x.way(0, 301, 0, 0));
         refuses("t", ARGUMENT, () -> x.way(0, 0, 0, 301));
@@ -544,6 +577,9 @@ public final class PromisesTest {
         due("by room 0", x.latest(1, 2, 12), 10);
         due("itself", x.latest(1, 1, 300), 49);
         due("itself", x.latest(1, 1, 3), 3);
+        due("in the first minute", x.latest(1, 1, 0), 0);
+        StreetDreams shut = on("sleeper 0 9 0;sleeper 0 9 0;door 0 1 1;turns 0 0;noise 2 0;");
+        due("goes in 0", shut.latest(0, 1, 1), 0);
         due("itself, not yet there", x.latest(2, 2, 9), -1);
         due("out of a room in its last minute", x.latest(1, 2, 300), 49);
         refuses("no room, ahead of the minute", INDEX, () -> x.latest(0, 3, 301));
@@ -604,6 +640,10 @@ public final class PromisesTest {
         due("each goes two doors", y.met(0, 4, 1), 3);
         due("each goes, or one waits", y.met(0, 3, 1), 3);
         due("too late", y.met(0, 4, 7), -1);
+        due("room 0 is gone", y.met(0, 0, 9), -1);
+        StreetDreams last = on("sleeper 0 0 0;sleeper 0 0 0;door 0 1 0;turns 0 0;noise 300 0;");
+        last.keep(3);
+        due("in the last minute", last.met(0, 1, 3), 300);
         refuses("no room, ahead of the minute", INDEX, () -> x.met(0, 3, 301));
         refuses("minute", ARGUMENT, () -> x.met(0, 1, 301));
     }
@@ -619,6 +659,11 @@ public final class PromisesTest {
         due("0 and 4", x.order(1, 6, 1), 4);
         due("two of them", x.order(1, 6, 0), 2);
         due("3 and 4", x.order(3, 4, 1), 34);
+        StreetDreams w = on("sleeper 0 9 0;sleeper 0 9 0;door 0 1 0;door 0 1 0;turns 0 0;turns 5 1;turns 1 0;turns 2 1;");
+        due("0 and 2, not 0 and 5, 1 and 2", w.order(3, 0, 1), 2);
+        StreetDreams v = on("sleeper 0 9 0;sleeper 0 9 0;door 0 1 0;door 0 1 0;door 0 1 0;turns 0 0;turns 5 1;turns 5 2;"
+            + "turns 1 0;turns 1 1;turns 2 2;");
+        due("0 and 5, not 1 and 2", v.order(7, 0, 1), 5);
         due("as it is", x.order(4, 3, 0), 0);
         due("by none", on(SMALL).order(1, 4, 0), -1);
         due("by none", on(SMALL).order(1, 4, 1), -1);
@@ -684,6 +729,10 @@ public final class PromisesTest {
         due("through the unsure room: 1 of 16", y.surest(0, 3, 1), 16);
         due("no way", y.surest(0, 5, 0), -1);
         due("no way", y.surest(0, 5, 3), -1);
+        StreetDreams even = on(times(5, "sleeper 0 9 0;") + "door 0 1 1;door 1 2 1;door 2 4 1;door 0 3 1;door 3 4 1;");
+        due("of alike ones the fewest", even.surest(0, 4, 3), 34);
+        StreetDreams same = on(times(4, "sleeper 0 9 3;") + "door 0 2 1;door 2 3 1;door 0 1 1;door 1 3 1;");
+        due("then the first", same.surest(0, 3, 3), 13);
         StreetDreams z = on(times(8, "sleeper 0 9 15;") + "door 0 1 1;door 1 2 1;door 2 3 1;door 3 4 1;door 4 5 1;"
             + "door 5 6 1;door 6 7 1;");
         due("beyond ints", z.surest(7, 0, 1), 4294967296L);
@@ -732,6 +781,8 @@ public final class PromisesTest {
         }
         due("kept and never asleep", two.drawn(seed, 2), 2);
         due("new object", new StreetDreams().drawn(5, 1), 0);
+        StreetDreams early = on("sleeper 0 9 0;sleeper 0 0 0;dreamer 0 0;dreamer 1 0;");
+        due("comes in the first minute", early.drawn(1, 0), 3);
         refuses("what", ARGUMENT, () -> x.drawn(0, 3));
         refuses("what", ARGUMENT, () -> x.drawn(0, -1));
     }
@@ -754,6 +805,9 @@ public final class PromisesTest {
         due("by both ways", safe > 0 && safe < 20, true);
         due("seeds wrap", y.span(Integer.MAX_VALUE, 2, 2),
             (y.drawn(Integer.MAX_VALUE, 0) == 0 ? 1 : 0) + (y.drawn(Integer.MIN_VALUE, 0) == 0 ? 1 : 0));
+        for (int i = -9; i < 11; i++) {
+            due("one seed", y.span(i, 1, 2), y.drawn(i, 0) == 0 ? 1 : 0);
+        }
         refuses("many", ARGUMENT, () -> x.span(0, 0, 0));
         refuses("many", ARGUMENT, () -> x.span(0, 21, 0));
         refuses("what", ARGUMENT, () -> x.span(0, 1, 3));
@@ -776,11 +830,37 @@ public final class PromisesTest {
         due("no sleepers", new StreetDreams().round(1), 0);
         StreetDreams six = on(times(6, "sleeper 0 300 0;") + "dreamer 0 1;milk 300;");
         due("six", six.round(1), 12345);
+        roundsFromOtherMinutes();
         StreetDreams seven = on(times(7, "sleeper 0 300 0;"));
         refuses("seven", STATE, () -> seven.round(0));
         refuses("what", ARGUMENT, () -> seven.round(2));
         refuses("what", ARGUMENT, () -> x.round(-1));
         due("counted", seven.status(3), 1);
+    }
+
+    private static void roundsFromOtherMinutes() {
+        StreetDreams x = on("sleeper 0 9 0;sleeper 0 9 0;dreamer 0 0;dreamer 1 1;milk 0;");
+        due("milk 0: 1 comes into 1 in minute 1, in which all are woken", x.round(0), 2);
+        StreetDreams w = on("sleeper 0 9 0;sleeper 0 9 0;sleeper 0 9 0;door 0 1 1;door 1 2 1;dreamer 0 0;milk 0;",
+            "to 1;to 2;");
+        w.keep(4);
+        due("in 2 he gets into the kept room, but 1 is woken by then, or 0 ahead", w.round(0), 1);
+        w.keep(6);
+        due("in 1 he is in a kept room, if 0 is woken last", w.round(0) * 1000 + w.round(1), 120);
+        StreetDreams v = on("sleeper 5 9 0;sleeper 0 9 0;dreamer 0 0;dreamer 1 0;milk 5;");
+        v.keep(2);
+        due("0 comes in 0, ahead of his room, 1 into a kept one", v.round(0), 1);
+        StreetDreams y = on("sleeper 0 300 0;sleeper 0 300 0;dreamer 0 20;dreamer 1 30;dreamer 1 6;dreamer 0 6;milk 5;");
+        due("all come too late", y.round(0), 4);
+        y.keep(2);
+        due("but for those of the kept room", y.round(0), 2);
+        due("the first order", y.round(1), 1);
+        StreetDreams z = on("sleeper 0 300 0;sleeper 5 300 0;sleeper 0 0 0;door 0 1 1;door 1 2 1;dreamer 0 3;milk 5;",
+            "wait 1;to 1;to 2;");
+        z.keep(4);
+        due("room 1 begins in 5, in which he goes into it", z.round(0), 0);
+        due("2, then 0, or he is lost", z.round(1), 201);
+        due("ahead of it he would be lost", on("sleeper 0 3 0;sleeper 0 9 0;dreamer 0 1;milk 5;").round(0), 1);
     }
 
     private static void p32() {
@@ -828,6 +908,8 @@ public final class PromisesTest {
         due("1 is gone", x.reach(1, 45, 60), 5);
         due("same minute", x.reach(0, 5, 5), 1);
         due("not there", x.reach(2, 5, 50), 0);
+        due("room 0 is not there", x.reach(0, 100, 100), 0);
+        due("nor later", x.reach(0, 100, 101), 0);
         due("all gone", x.reach(0, 5, 300), 0);
         refuses("less", ARGUMENT, () -> x.reach(0, 5, 4));
         refuses("no room, ahead of minutes", INDEX, () -> x.reach(3, 5, 4));
@@ -918,6 +1000,7 @@ public final class PromisesTest {
         due("no sleepers", new StreetDreams().help(), -1);
         due("the first of alike ones", on("sleeper 0 9 0;sleeper 0 9 0;").help(), 0);
         due("asked, nobody is kept", x.keep(0), 7);
+        due("comes in the first minute", on("sleeper 1 9 0;sleeper 0 9 0;dreamer 1 0;").help(), 1);
     }
 
     private static void p43() {
@@ -966,6 +1049,7 @@ public final class PromisesTest {
         StreetDreams x = on("noise 1 1;noise 2 2;noise 3 3;");
         due("left", x.hush(1), 2);
         due("moved up", x.noise(1, 0), 3);
+        due("moved up", x.noise(1, 1), 3);
         due("none such", x.hush(2), -1);
         due("none such", x.hush(-1), -1);
         due("one change", x.count(2), 1);
@@ -1010,9 +1094,25 @@ public final class PromisesTest {
         due("noises", x.told(2), 2);
         due("hush", x.undo(), 0);
         due("at its place", x.noise(1, 0) * 100 + x.noise(2, 0), 203);
+        due("at its place", x.noise(1, 1) * 100 + x.noise(2, 1), 203);
         due("none", x.undo(), -1);
         x.make(4, 4);
         due("again", x.undo(), 0);
+        StreetDreams y = on(SMALL);
+        due("by the noise", y.open(1, 25), true);
+        y.hush(0);
+        due("without", y.open(1, 25), false);
+        y.undo();
+        due("again", y.open(1, 25), true);
+        y.sleep(0, 0, 9);
+        due("gone in 9", y.night(0, 0), 9);
+        y.undo();
+        due("gone in 100", y.night(0, 0), 100);
+        y.image();
+        y.hush(0);
+        due("without", y.often(1), 0);
+        y.restore();
+        due("restored", y.often(1), 281);
     }
 
     private static void p48() {
