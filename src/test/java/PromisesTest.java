@@ -387,6 +387,10 @@ public final class PromisesTest {
         due("no twin", x.there(2, 25), false);
         x.keep(2);
         due("twin of a kept one", x.there(0, 300), true);
+        StreetDreams three = on("sleeper 0 9 0;" + times(5, "sleeper 0 0 0;") + "twin 5 1;twin 0 3;twin 2 4;");
+        due("three twins", three.rooms(1), 9);
+        three.keep(4);
+        due("three twins", three.rooms(300), 20);
         refuses("no room, ahead of the minute", INDEX, () -> x.there(3, 301) ? 1 : 0);
         refuses("no room", INDEX, () -> x.there(-1, 0) ? 1 : 0);
         refuses("minute", ARGUMENT, () -> x.there(0, 301) ? 1 : 0);
@@ -563,6 +567,9 @@ public final class PromisesTest {
         due("the least room while it is there", z.way(1, 3, 2, 5), 0);
         due("out of it as it goes", z.way(1, 3, 2, 6), 1);
         due("and not back", z.way(1, 3, 2, 9), 1);
+        StreetDreams once = on(times(3, "sleeper 0 300 0;") + "door 0 1 1;door 1 2 0;turns 0 1;noise 10 0;noise 11 0;");
+        due("in the least room", once.way(1, 3, 2, 8), 0);
+        due("back in time", once.way(1, 3, 2, 9), 1);
         refuses("no room, ahead of minutes", INDEX, () -> x.way(4, 301, 0, 301));
         refuses("minute", ARGUMENT, () -> x.way(0, 301, 0, 0));
         refuses("t", ARGUMENT, () -> x.way(0, 0, 0, 301));
@@ -850,6 +857,9 @@ public final class PromisesTest {
         StreetDreams v = on("sleeper 5 9 0;sleeper 0 9 0;dreamer 0 0;dreamer 1 0;milk 5;");
         v.keep(2);
         due("0 comes in 0, ahead of his room, 1 into a kept one", v.round(0), 1);
+        StreetDreams u = on("sleeper 5 9 0;sleeper 0 9 0;door 0 1 1;dreamer 0 0;milk 5;", "to 1;");
+        u.keep(2);
+        due("lost ahead of the milkman, whatever the order", u.round(0), 1);
         StreetDreams y = on("sleeper 0 300 0;sleeper 0 300 0;dreamer 0 20;dreamer 1 30;dreamer 1 6;dreamer 0 6;milk 5;");
         due("all come too late", y.round(0), 4);
         y.keep(2);
@@ -971,6 +981,8 @@ public final class PromisesTest {
         due("1 goes in 5, 0 in 6", x.crowd(0), 3);
         due("three in 6", x.crowd(1), 6);
         due("twins are two rooms", on("sleeper 0 9 0;sleeper 0 9 0;twin 0 1;dreamer 0 1;dreamer 1 1;").crowd(0), 1);
+        StreetDreams four = on("sleeper 0 9 0;" + times(4, "dreamer 0 1;"));
+        due("four", four.crowd(0) * 100 + four.lonely(0) * 10 + four.night(3, 4), 418);
         StreetDreams y = on("sleeper 0 9 0;dreamer 0 9;");
         due("nobody", y.crowd(0), 0);
         due("nobody", y.crowd(1), -1);
