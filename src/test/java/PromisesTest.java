@@ -1,9 +1,5 @@
-import java.util.NoSuchElementException;
-import java.util.function.LongSupplier;
-
 /** For each promise of the document: ordinary calls, the edges that it names, and wrong inputs. */
-public final class PromisesTest {
-    private static int wrong;
+public final class PromisesTest extends Checks {
     private static int promise;
 
     /** Three rooms, a door that opens in minute 20, one dreamer. */
@@ -11,73 +7,6 @@ public final class PromisesTest {
         + "door 0 2 1;turns 2 1;turns 3 2;turns 3 0;noise 20 2;dreamer 0 5;";
 
     // ---- means
-
-    private static void due(String call, long got, long want) {
-        if (got != want) {
-            wrong++;
-            System.out.println("promise " + promise + ": " + call + " answered " + got + ", due is " + want);
-        }
-    }
-
-    private static void due(String call, boolean got, boolean want) {
-        due(call, got ? 1 : 0, want ? 1 : 0);
-    }
-
-    private static void refuses(String call, Class<?> want, LongSupplier made) {
-        String got = "nothing";
-        try {
-            made.getAsLong();
-        } catch (IndexOutOfBoundsException | NoSuchElementException | IllegalArgumentException
-                | IllegalStateException e) {
-            got = e.getClass().getSimpleName();
-        }
-        if (!got.equals(want.getSimpleName())) {
-            wrong++;
-            System.out.println("promise " + promise + ": " + call + " threw " + got + ", due is " + want.getSimpleName());
-        }
-    }
-
-    private static final Class<?> INDEX = IndexOutOfBoundsException.class;
-    private static final Class<?> ELEMENT = NoSuchElementException.class;
-    private static final Class<?> ARGUMENT = IllegalArgumentException.class;
-    private static final Class<?> STATE = IllegalStateException.class;
-
-    private static StreetDreams feed(StreetDreams x, String text) {
-        for (int i = 0; i < text.length(); i += 20) {
-            int[] n = new int[5];
-            for (int k = 0; k < 20; k++) {
-                n[k / 4] = n[k / 4] << 8 | (i + k < text.length() ? text.charAt(i + k) & 255 : 0);
-            }
-            x.feed(n[0], n[1], n[2], n[3], n[4]);
-        }
-        return x;
-    }
-
-    private static int street(StreetDreams x, String text) {
-        return feed(x, text).street(text.length());
-    }
-
-    private static int will(StreetDreams x, int dreamer, String text) {
-        return feed(x, text).will(dreamer, text.length());
-    }
-
-    private static int book(StreetDreams x, String text) {
-        return feed(x, text).book(text.length());
-    }
-
-    private static StreetDreams on(String text, String... wills) {
-        StreetDreams x = new StreetDreams();
-        int answer = street(x, text);
-        if (answer < 0) {
-            due("street \"" + text + "\"", answer, 0);
-        }
-        for (int i = 0; i < wills.length; i++) {
-            if (will(x, i, wills[i]) < 0) {
-                due("will \"" + wills[i] + "\" fault at", x.fault(), -1);
-            }
-        }
-        return x;
-    }
 
     private static void streetFault(String text, int kind, int place) {
         StreetDreams x = new StreetDreams();
@@ -89,10 +18,6 @@ public final class PromisesTest {
         StreetDreams x = on(SMALL);
         due("will \"" + text + "\"", will(x, 0, text), kind - 10);
         due("fault of \"" + text + "\"", x.fault(), place);
-    }
-
-    private static String times(int n, String s) {
-        return s.repeat(n);
     }
 
     // ---- promises
@@ -1219,9 +1144,9 @@ public final class PromisesTest {
             PromisesTest::p51};
         for (Runnable r : all) {
             promise++;
+            part("promise " + promise);
             r.run();
         }
-        System.out.println(wrong == 0 ? "promises 1 to " + promise + " hold" : wrong + " answers are not as due");
-        System.exit(wrong == 0 ? 0 : 1);
+        finish("promises 1 to " + promise + " hold");
     }
 }
