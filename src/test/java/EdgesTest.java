@@ -6,6 +6,12 @@ public final class EdgesTest extends Checks {
     public static void main(String[] args) throws Exception {
         TextEdges.all();
         NightEdges.all();
+        WayEdges.all();
+        ChoiceEdges.all();
+        CountEdges.all();
+        ChangeEdges.all();
+        RefusalEdges.all();
+        heldAgainst(document());
         finish("the edges hold");
     }
 }
