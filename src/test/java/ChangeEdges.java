@@ -20,6 +20,7 @@ final class ChangeEdges extends Checks {
         restoreOverChanges();
         count();
         asksAnew();
+        nightsAnew();
     }
 
     /** So many changes, none of which is seen in the noises. */
@@ -385,6 +386,17 @@ final class ChangeEdges extends Checks {
             due("left", x.undo(), i);
         }
         due("as told", x.sleeper(1, 0), 0);
+        StreetDreams z = on(ROOM + "noise 1 1;noise 2 2;");
+        z.sleep(0, 4, 8);
+        z.hush(1);
+        z.image();
+        z.undo();
+        z.undo();
+        z.sleep(1, 5, 6);
+        z.hush(0);
+        due("back", z.restore(), 0);
+        due("the hushed one of the image is back", z.undo() * 100 + z.noise(1, 0) * 10 + z.noise(1, 1), 122);
+        due("F and T as ahead of the image's change", z.undo() * 100 + z.sleeper(0, 0) * 10 + z.sleeper(0, 1), 39);
         StreetDreams y = on(ROOM + "noise 1 1;");
         y.image();
         y.hush(0);
@@ -460,5 +472,38 @@ final class ChangeEdges extends Checks {
         due("a fault leaves the will", path(x, 0, 5, 8), "0011");
         street(x, "sleeper 0 20 0;dreamer 0 6;");
         due("another street", path(x, 0, 5, 8), ".000");
+    }
+
+    /** A night that is gone through once more counts nothing twice, and nobody goes on with what he did in the one ahead. */
+    private static void nightsAnew() {
+        says("from now on");
+        String street = "sleeper 0 20 0;sleeper 0 20 0;door 0 1 1;turns 2 0;dreamer 0 5;dreamer 0 5;";
+        String first = "to 1;to 1;to 0;call 4;call 4;until not met[];";
+        String second = "wait 20;call 4;";
+        StreetDreams x = on(street, first, second);
+        String all = nights(x);
+        due("the first, the other", all, "20 2 1 2 13 1 ; 20 0 0 0 13 0 ; ");
+        x.make(300, 5);
+        due("the same once more", nights(x), all);
+        x.undo();
+        due("and once more", nights(x), all);
+        x.keep(3);
+        StreetDreams kept = on(street, first, second);
+        kept.keep(3);
+        due("who was lost as he waited begins anew", nights(x), nights(kept));
+        due("he calls in 26", x.night(1, 3), 1);
+        will(x, 0, "until after 9[wait 1;];to 1;");
+        due("who had too many turns has them no more", x.night(0, 5) * 100 + x.night(0, 1) * 10 + x.where(0, 10), 11);
+    }
+
+    private static String nights(StreetDreams x) {
+        StringBuilder b = new StringBuilder();
+        for (int d = 0; d < x.told(4); d++) {
+            for (int what = 0; what <= 5; what++) {
+                b.append(x.night(d, what)).append(' ');
+            }
+            b.append("; ");
+        }
+        return b.toString();
     }
 }

@@ -259,6 +259,8 @@ final class ChoiceEdges extends Checks {
         says("of alike ones the fewest ROOMS, then the first (ROOM by ROOM)");
         StreetDreams fewest = on(times(5, "sleeper 0 9 0;") + "door 0 1 1;door 1 2 1;door 2 4 1;door 0 3 1;door 3 4 1;");
         surestIs("034, not 0124", fewest, 0, 4, new long[] {1, 1, 3, 34});
+        StreetDreams ahead = on(times(5, "sleeper 0 9 0;") + "door 0 2 1;door 2 3 1;door 3 4 1;door 0 1 1;door 1 4 1;");
+        surestIs("014, not 0234", ahead, 0, 4, new long[] {1, 1, 3, 14});
         StreetDreams even = on("sleeper 0 9 0;sleeper 0 9 4;sleeper 0 9 7;sleeper 0 9 0;sleeper 0 9 0;"
             + "door 0 1 1;door 1 3 1;door 3 4 1;door 0 3 0;");
         surestIs("the only one", even, 0, 4, new long[] {3, 4, 4, 134});
@@ -561,6 +563,38 @@ final class ChoiceEdges extends Checks {
         StreetDreams alike = on("sleeper 0 300 0;sleeper 0 300 0;sleeper 0 300 0;door 2 1 1;dreamer 2 9;milk 10;", "to 1;");
         alike.keep(2);
         roundIs("012, the first of the four in which 2 is not woken in 10", alike, 0, 12);
+        StreetDreams begin = on("sleeper 0 300 0;sleeper 0 300 0;sleeper 0 300 0;door 0 1 1;dreamer 0 0;milk 0;", "to 1;");
+        begin.keep(2);
+        roundIs("from minute 0 on: 1 in 0, 2 in 1, 0 in 2", begin, 0, 120);
+        StreetDreams row = on(times(6, "sleeper 0 300 0;") + "door 4 3 1;door 3 2 1;door 2 1 1;door 1 0 1;door 0 5 1;"
+            + "dreamer 4 9;milk 10;", "to 3;to 2;to 1;to 0;to 5;");
+        row.keep(32);
+        roundIs("the last order alone", row, 0, 543210);
+        StreetDreams early = on(two + "dreamer 0 0;milk 10;", "wait 9;to 1;");
+        early.keep(2);
+        roundIs("who came in 0 goes in 10", early, 0, 10);
+        StreetDreams late = on(two + "dreamer 0 7;dreamer 0 300;dreamer 1 7;dreamer 1 200;milk 5;");
+        roundIs("all who come behind the round", late, 4, 1);
+        late.keep(2);
+        roundIs("but for those of the kept room", late, 2, 1);
+        late.keep(3);
+        roundIs("but for those of kept rooms", late, 0, 1);
+        StreetDreams up = on("sleeper 0 300 0;sleeper 0 6 0;sleeper 0 300 0;dreamer 1 7;milk 7;");
+        roundIs("who is up ahead of the milkman is up in all orders", up, 1, 12);
+        StreetDreams gone = on("sleeper 0 300 0;sleeper 0 6 0;sleeper 0 300 0;door 1 2 1;dreamer 1 7;milk 7;", "to 2;");
+        gone.keep(4);
+        roundIs("nor is he there in 7 for who would go on in 8", gone, 1, 12);
+        StreetDreams ahead = on("sleeper 3 9 0;sleeper 0 300 0;door 0 1 1;dreamer 0 2;milk 5;", "to 1;");
+        ahead.keep(2);
+        roundIs("lost ahead of the milkman", ahead, 1, 1);
+        StreetDreams doors = on(times(4, "sleeper 0 300 0;") + "door 0 1 0;turns 0 0;dreamer 0 9;dreamer 3 5;milk 10;",
+            "wait 2;to 1;", "wait 4;call 0;");
+        doors.keep(10);
+        roundIs("0 last; the door is opened in 10 in each order", doors, 0, 1230);
+        StreetDreams seldom = on("sleeper 0 300 0;sleeper 8 9 0;sleeper 0 300 0;door 0 1 1;door 1 2 1;dreamer 0 6;milk 7;",
+            "wait 1;to 1;to 2;");
+        seldom.keep(4);
+        roundIs("the room is there in 8 alone", seldom, 1, 12);
         due("without a milkman: of the night", on(two + "dreamer 0 5;dreamer 1 6;").round(0), 2);
     }
 
@@ -632,6 +666,18 @@ final class ChoiceEdges extends Checks {
         roundIsBest(five, row + "dreamer 0 4;dreamer 1 3;dreamer 1 4;", steps, 8, 5);
         roundIsBest(five, row + "dreamer 0 4;dreamer 1 3;dreamer 1 4;", steps, 8, 4);
         roundIsBest(five, row + "dreamer 4 8;dreamer 2 3;dreamer 2 9;", steps, 4, 6);
+        int[][] four = {{0, 300}, {0, 300}, {0, 300}, {0, 300}};
+        String pair = "door 0 1 1;door 1 2 0;door 2 3 1;turns 0 1;dreamer 0 5;dreamer 2 6;";
+        String[][] wills = {{"wait 6;to 1;", "call 0;to 3;"}, {"again 5[wait 1;];to 1;", "wait 3;to 3;"},
+            {"wait 4;call 0;to 1;to 2;to 3;", "to 3;"}, {"again 6[call 0;];to 1;to 2;to 3;", "wait 5;call 0;to 3;"},
+            {"wait 4;until not there 0[if there 2[];];to 1;", "wait 4;if there 1[again 9[again 9[];];];to 3;"},
+            {"wait 4;if not there 3[until met[];];to 1;", "wait 5;if there 0[until met[];];to 3;"}};
+        for (String[] w : wills) {
+            for (int milk = 8; milk < 12; milk++) {
+                roundIsBest(four, pair, w, 2, milk);
+                roundIsBest(four, pair, w, 8, milk);
+            }
+        }
         int[][] three = {{0, 300}, {0, 300}, {0, 300}};
         String[] quick = {"to 1;to 2;", "to 1;"};
         for (int milk = 0; milk < 4; milk++) {

@@ -295,6 +295,12 @@ final class CountEdges extends Checks {
 
     private static void helpOfAlike() {
         says("the one by whom, were he KEPT, too, fewest DREAMERS are LOST");
+        due("one of two is lost, whoever is kept", on("sleeper 0 9 0;sleeper 0 9 0;dreamer 1 1;dreamer 0 1;").help(), 0);
+        String leave = "until after 20[wait 1;];to 1;";
+        due("all four are lost, whoever is kept", on("sleeper 0 20 0;sleeper 0 30 0;door 0 1 1;" + times(4, "dreamer 0 1;"),
+            leave, leave, leave, leave).help(), 0);
+        due("who stays is lost but for 0", on("sleeper 0 20 0;sleeper 0 30 0;door 0 1 1;" + times(4, "dreamer 0 1;"),
+            leave, leave, leave).help(), 0);
         due("of alike ones the first", on(times(3, "sleeper 0 9 0;") + "dreamer 2 1;dreamer 1 1;").help(), 1);
         due("by the twin's first sleeper", on(times(3, "sleeper 0 9 0;") + "twin 2 1;dreamer 2 1;").help(), 1);
         due("in the first minute", on("sleeper 9 9 0;sleeper 9 9 0;dreamer 1 0;").help(), 1);

@@ -19,6 +19,7 @@ final class NightEdges extends Checks {
         asIsThen();
         toARoom();
         questions();
+        eachQuestion();
         promisedRows();
         nightOfADreamer();
         lostBits();
@@ -216,6 +217,11 @@ final class NightEdges extends Checks {
         due("59 and an if", turned("again 20[];again 20[];again 16[];if met[];call 0;"), 10);
         due("the end of an if is none", turned("again 20[];again 20[];again 16[];if in 0[];call 0;"), 10);
         due("the end of an else is none", turned("again 20[];again 20[];again 16[];if met[]else[];call 0;"), 10);
+        due("nor is it ahead of another turn: 58 and 2", turned("again 20[];again 20[];again 15[];if in 0[]else[];if met[];call 0;"), 10);
+        due("58 and 3", turned("again 20[];again 20[];again 15[];if in 0[]else[];if met[];if met[];call 0;"), 1);
+        due("the end of an until is none: 1 and 59 in minute 2",
+            turned("until after 2[call 0;];again 20[];again 20[];again 16[];call 0;"), 20);
+        due("1 and 60 in minute 2", turned("until after 2[call 0;];" + sixty + "call 0;"), 11);
         due("59 and an until that is so", turned("again 20[];again 20[];again 16[];until in 0[];call 0;"), 10);
         due("nested: 1 + 3 * (1 + 18 + 1) are 61", turned("again 3[again 18[];];call 0;"), 1);
         due("nested: 1 + 3 * (1 + 17 + 1) and 2 are 60", turned("again 3[again 17[];];again 1[];call 0;"), 10);
@@ -326,6 +332,33 @@ final class NightEdges extends Checks {
             "until open 0[wait 1;];to 1;until not open 0[wait 1;];to 0;");
         due("open in 4, shut in 6", path(doors, 0, 3, 7), "01111");
         due("went, failed", doors.night(0, 1) * 10 + doors.night(0, 2), 11);
+    }
+
+    /** Each question in minute 1, plain, turned, and turned twice; and in a minute in which another dreamer has come. */
+    private static void eachQuestion() {
+        says("or \"not\" T");
+        String street = "sleeper 0 300 0;sleeper 1 300 0;sleeper 2 300 0;" + times(9, "door 1 2 0;") + "door 1 2 1;"
+            + "dreamer 0 0;";
+        String[] so = {"in 0", "there 0", "there 1", "open 9", "after 0", "after 1"};
+        String[] notSo = {"in 1", "in 2", "there 2", "open 0", "open 8", "met", "after 2", "after 300"};
+        for (String t : so) {
+            asked(street, t, 1);
+        }
+        for (String t : notSo) {
+            asked(street, t, 0);
+        }
+        asked(street + "dreamer 0 1;", "met", 1);
+        asked(street + "dreamer 1 1;", "met", 0);
+        asked("sleeper 0 0 0;sleeper 0 300 0;dreamer 1 0;", "in 1", 1);
+        asked("sleeper 0 0 0;sleeper 0 300 0;dreamer 1 0;", "in 0", 0);
+        asked("sleeper 0 0 0;sleeper 0 300 0;dreamer 1 0;", "there 0", 0);
+    }
+
+    private static void asked(String street, String t, int so) {
+        due("if " + t, on(street, "if " + t + "[call 0;];").night(0, 3), so);
+        due("if not " + t, on(street, "if not " + t + "[call 0;];").night(0, 3), 1 - so);
+        due("if not not " + t, on(street, "if not not " + t + "[call 0;];").night(0, 3), so);
+        due("else of " + t, on(street, "if " + t + "[]else[call 0;];").night(0, 3), 1 - so);
     }
 
     // ---- promises 11 to 16

@@ -182,6 +182,8 @@ final class TextEdges extends Checks {
         due("no change", y.count(2), 0);
         due("undo", y.undo(), -1);
         due("as told", state(y), state(on(HOUSE)));
+        firstBytesAlone();
+        streetsInTurn();
         says("how many SLEEPERS; or the FAULT less 10 (all but the TAPE stays)");
         taken("", 0);
         taken("milk 0;", 0);
@@ -194,6 +196,68 @@ final class TextEdges extends Checks {
         street(z, "milk");
         due("the image stays", z.restore(), 0);
         due("and what is in it", z.told(2) * 100 + z.sleeper(0, 0) * 10 + z.told(6), 100);
+    }
+
+    /** What stands behind the first n bytes is not read: all is as if it were not there. */
+    private static void firstBytesAlone() {
+        says("The first n bytes of the TAPE");
+        String street = ONE + "sleeper 00 88  1 ;door 0 1 1;turns 2 0;noise 44 2;twin 0 1;dreamer 1 33; milk 66 ;milk 7;";
+        String will = "wait 77;again 11 [ call 4;];if not met[]else [ to 1 ; ] ;until after 55[];";
+        String book = "seen 55 ;gone 66;  seen 77;";
+        for (int n = 0; n <= street.length(); n++) {
+            StreetDreams x = feed(new StreetDreams(), street);
+            StreetDreams y = feed(new StreetDreams(), street.substring(0, n));
+            due("first " + n + " bytes of the street", x.street(n) + " " + x.fault() + " " + state(x),
+                y.street(n) + " " + y.fault() + " " + state(y));
+        }
+        for (int n = 0; n <= will.length(); n++) {
+            StreetDreams x = feed(on(HOUSE), will);
+            StreetDreams y = feed(on(HOUSE), will.substring(0, n));
+            due("first " + n + " bytes of the will", x.will(0, n) + " " + x.fault() + " " + state(x),
+                y.will(0, n) + " " + y.fault() + " " + state(y));
+        }
+        for (int n = 0; n <= book.length(); n++) {
+            StreetDreams x = feed(on(HOUSE), book);
+            StreetDreams y = feed(on(HOUSE), book.substring(0, n));
+            due("first " + n + " bytes of the book", x.book(n) + " " + x.fault() + " " + state(x),
+                y.book(n) + " " + y.fault() + " " + state(y));
+        }
+        String full = padded("milk 5", 600);
+        StreetDreams x = feed(new StreetDreams(), full);
+        due("up to the last byte", x.street(600) * 1000 - x.fault(), -9600);
+        StreetDreams digits = feed(new StreetDreams(), "milk " + times(595, "0"));
+        due("digits up to the last byte", digits.street(600) * 1000 - digits.fault(), -9600);
+        StreetDreams letters = feed(new StreetDreams(), times(600, "m"));
+        due("letters up to the last byte", letters.street(600) * 1000 - letters.fault(), -9000);
+        StreetDreams ahead = feed(new StreetDreams(), times(599, " ") + "m");
+        due("a letter in the last byte", ahead.street(600) * 1000 - ahead.fault(), -9599);
+    }
+
+    /** Nothing of an earlier street, nor of one that had a fault, is left in a later one. */
+    private static void streetsInTurn() {
+        says("A STREET without CLAUSES.");
+        String rich = EIGHT + times(10, "door 0 1 1;") + "turns 0 0;turns 3 9;" + times(12, "noise 5 0;")
+            + "twin 0 1;twin 2 3;" + times(4, "dreamer 0 5;") + "milk 7;";
+        String plain = TWO + "door 0 1 0;turns 1 0;noise 9 1;dreamer 1 3;";
+        StreetDreams x = on(rich);
+        x.keep(255);
+        x.hush(0);
+        due("none", street(x, ""), 0);
+        due("as a new object", state(x), state(new StreetDreams()));
+        due("the third one", street(x, plain), 2);
+        due("as on a new object", state(x) + x.rooms(9) + x.far(0, 1), state(on(plain)) + "0-1");
+        StreetDreams y = on(plain);
+        due("a fault behind much", street(y, rich + "milk 301;"), -8);
+        due("the next", street(y, plain), 2);
+        due("as on a new object", state(y) + y.rooms(9) + y.far(0, 1), state(on(plain)) + "0-1");
+        StreetDreams z = on(HOUSE);
+        will(z, 0, "call 4;call 4;to 0;");
+        will(z, 0, "wait 1;to 9;");
+        will(z, 0, "call 4;");
+        due("nor of a will", z.night(0, 3) * 10 + z.night(0, 2), 10);
+        book(z, "gone 5;gone 6;seen 1;");
+        book(z, "gone 5;gone 301;");
+        due("nor of a book", book(z, "seen 5;") * 10 + z.whose(), 17);
     }
 
     private static void refusedLengths() {
@@ -382,6 +446,8 @@ final class TextEdges extends Checks {
             due("twin of " + k, x.sleeper(k, 3), other[k]);
         }
         due("three", x.told(3), 3);
+        x.keep(1 << 7 | 1 << 1 | 1 << 2);
+        due("the rooms of three twins", x.rooms(300), 0xcf);
         faulty(EIGHT + "twin 0 1;twin 2 3;twin 4 5;twin 6 7;", 3, 139);
         faulty(TWO + ONE + "twin 0 1;twin 0 2;", 2, 56);
         faulty(TWO + ONE + "twin 0 1;twin 1 2;", 2, 56);
@@ -605,6 +671,12 @@ final class TextEdges extends Checks {
         faulty("`ilk 7;", 1, 0);
         faulty("mil{ 7;", 1, 0);
         faulty("milk` 7;", 1, 4);
+        faulty("milkz 7;", 1, 0);
+        faulty("milka 7;", 1, 0);
+        faulty("zmilk 7;", 1, 0);
+        faulty("amilk 7;", 1, 0);
+        willFaulty("if met[]elsez[];", 1, 8);
+        bookFaulty("seena 7;", 1, 0);
         faulty("milk/7;", 1, 4);
         faulty("milk:7;", 1, 4);
         willTaken("to1;if not met[]else[];", 2);

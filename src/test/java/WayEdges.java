@@ -246,6 +246,9 @@ final class WayEdges extends Checks {
         due("it is gone in 7: from 0", x.cut(0, 7), 0xf0);
         due("from 2", x.cut(2, 7), 0xf0);
         due("from 4", x.cut(4, 7), 0x07);
+        StreetDreams middle = on("sleeper 0 7 0;sleeper 0 300 0;sleeper 0 300 0;door 1 0 1;door 0 2 1;");
+        due("room 0 in the middle is there in 6", middle.cut(1, 6), 0);
+        due("room 0 in the middle is gone in 7", middle.cut(1, 7), 4);
         due("none of all rooms without doors", on(times(8, "sleeper 0 300 0;")).cut(5, 0), 0xdf);
         due("one alone", on("sleeper 0 300 0;").cut(0, 0), 0);
         due("twins have no door", on(PAIR + "twin 0 1;").cut(0, 0), 2);
