@@ -172,6 +172,23 @@ abstract class Checks {
         return plain(Files.readString(Path.of("../shared/DOC.md")));
     }
 
+    /** The words of the document's terms and promises which were never said, but for headings and the calls' own lines. */
+    private static String leftOf(String document) {
+        String terms = document.substring(document.indexOf("## Terms"), document.indexOf("## Not promised"));
+        boolean[] said = new boolean[terms.length()];
+        for (String words : SAID) {
+            for (int i = terms.indexOf(words); i >= 0; i = terms.indexOf(words, i + 1)) {
+                java.util.Arrays.fill(said, i, i + words.length(), true);
+            }
+        }
+        StringBuilder left = new StringBuilder();
+        for (int i = 0; i < said.length; i++) {
+            left.append(said[i] ? '~' : terms.charAt(i));
+        }
+        return left.toString().replaceAll("~+", "~").replaceAll("```(text)?|==== \\d\\.|## Terms|## Promise \\d+: [A-Za-z ]+", " ")
+            .replaceAll("`[^`]*`:?", " ").replaceAll("\\bor\\b|[~ .,:;)]", "");
+    }
+
     static String plain(String text) {
         return text.replaceAll("\\s+", " ");
     }
@@ -188,5 +205,6 @@ abstract class Checks {
             due("some words of promise " + p, SAID.stream().anyMatch(promise::contains), true);
         }
         due("promises", promises.length - 1, 51);
+        due("what of its terms and promises no check is headed by", leftOf(document), "");
     }
 }

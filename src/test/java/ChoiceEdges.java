@@ -35,7 +35,7 @@ final class ChoiceEdges extends Checks {
     }
 
     private static void order() {
-        says("the fewest NOISES by which, from DOORS as they are at first, all told DOORS (bits) are open and others told shut");
+        says("ORDER of NOISES: the fewest NOISES by which, from DOORS as they are at first, all told DOORS (bits) are open and others told shut");
         StreetDreams x = on(SIX);
         orderIs("none told", x, 0, 0, 0, 0);
         orderIs("as they are", x, 0, 63, 0, 0);
@@ -52,7 +52,7 @@ final class ChoiceEdges extends Checks {
         orderIs("both shut: as 1 is shut, 3 and 5", opened, 0, 3, 2, 35);
         orderIs("both open", opened, 3, 0, 1, 5);
         orderIs("changed for one another", opened, 2, 1, 1, 3);
-        says("0 how many, 1 the row as digits to the base 10 (the first the highest); NONE: by none.");
+        says("ORDER of NOISES: 0 how many, 1 the row as digits to the base 10 (the first the highest); NONE: by none.");
         orderIs("by none: a door that no sort turns", on(PAIR + "door 0 1 0;"), 1, 0, -1, -1);
         orderIs("by none: two that turn together", on(PAIR + "door 0 1 0;door 0 1 0;turns 2 0;turns 2 1;"), 1, 2, -1, -1);
         orderIs("together", on(PAIR + "door 0 1 0;door 0 1 0;turns 2 0;turns 2 1;"), 1, 0, 1, 2);
@@ -129,7 +129,7 @@ final class ChoiceEdges extends Checks {
     // ---- promise 27
 
     private static void wantTurns() {
-        says("two in turn, the first beginning, call a NOISE each (any SORT that turns any DOOR), n in all");
+        says("WANT: two in turn, the first beginning, call a NOISE each (any SORT that turns any DOOR), n in all");
         StreetDreams x = on(PAIR + "door 0 1 0;turns 3 0;");
         for (int n = 0; n <= 8; n++) {
             due("one door, each call must be made, n " + n, x.want(n, 0), n % 2);
@@ -234,7 +234,7 @@ final class ChoiceEdges extends Checks {
     }
 
     private static void surestOdds() {
-        says("the product over all its ROOMS (A and B, too) of (16 less W), each once, over 16 to their number, is greatest");
+        says("SUREST way from A to B by DOORS open at first: the product over all its ROOMS (A and B, too) of (16 less W), each once, over 16 to their number, is greatest");
         StreetDreams x = on("sleeper 0 9 1;sleeper 0 9 15;sleeper 0 9 0;sleeper 0 9 2;sleeper 0 0 0;"
             + "door 0 1 1;door 1 3 1;door 0 2 1;door 2 3 1;");
         surestIs("W 0, one room", x, 2, 2, new long[] {1, 1, 1, 2});
@@ -247,7 +247,7 @@ final class ChoiceEdges extends Checks {
         StreetDreams more = on("sleeper 0 9 0;sleeper 0 9 8;sleeper 0 9 4;sleeper 0 9 4;sleeper 0 9 0;"
             + "door 0 1 1;door 1 4 1;door 0 2 1;door 2 3 1;door 3 4 1;");
         surestIs("9 of 16 by two are more than 8 of 16 by one", more, 0, 4, new long[] {9, 16, 4, 234});
-        says("0 above, 1 below, in least terms, 2 how many ROOMS, 3 the ROOMS as digits to the base 10; "
+        says("SUREST: 0 above, 1 below, in least terms, 2 how many ROOMS, 3 the ROOMS as digits to the base 10; "
             + "NONE: there is no way");
         surestIs("no way", x, 0, 4, new long[] {-1, -1, -1, -1});
         surestIs("a shut door", on(PAIR + "door 0 1 0;turns 0 0;noise 0 0;"), 0, 1, new long[] {-1, -1, -1, -1});
@@ -387,7 +387,7 @@ final class ChoiceEdges extends Checks {
     }
 
     private static void whoIsAsked() {
-        says("in each MINUTE, for each SLEEPER who would sleep, by number");
+        says("DRAWN night by a SEED: in each MINUTE, for each SLEEPER who would sleep, by number");
         int first = seedWith(s -> asks(s, 15, 9) == 0);
         int second = seedWith(s -> asks(s, 15, 9) == 1);
         int third = seedWith(s -> asks(s, 15, 9) == 2);

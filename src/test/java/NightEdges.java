@@ -82,6 +82,7 @@ final class NightEdges extends Checks {
         x.keep(8);
         due("0 by its twin's", row(m -> x.there(0, m), 299, 300), "11");
         due("not 1, not 2", x.rooms(300), 9);
+        says("Whether a ROOM is THERE.");
         StreetDreams y = on("sleeper 0 3 0;sleeper 5 7 0;twin 1 0;milk 5;");
         due("the milkman wakes 1 in 6", row(m -> y.there(0, m), 1, 7), "1100100");
     }
@@ -97,6 +98,7 @@ final class NightEdges extends Checks {
         due("two of a minute, three of a minute", row(m -> two.open(0, m), 5, 9), "00011");
         StreetDreams ends = on(PAIR + "noise 0 0;noise 300 0;");
         due("in the first and in the last", row(m -> ends.open(0, m), 0, 300), times(300, "1") + "0");
+        says("In each MINUTE: (a) NOISES as told;");
         StreetDreams gone = on("sleeper 0 6 0;sleeper 0 300 0;door 0 1 0;turns 0 0;noise 6 0;dreamer 0 5;", "to 1;");
         due("opened in the minute in which his room goes", gone.night(0, 0), 6);
         StreetDreams asks = on(PAIR + "noise 6 0;dreamer 0 5;", "if open 0[call 1;];");
@@ -106,7 +108,7 @@ final class NightEdges extends Checks {
     // ---- lost, coming
 
     private static void lostOnes() {
-        says("DREAMERS in a ROOM that is not THERE are LOST (they do no more)");
+        says("(b) DREAMERS in a ROOM that is not THERE are LOST (they do no more)");
         String street = "sleeper 0 10 0;sleeper 0 300 0;door 0 1 1;dreamer 0 5;";
         StreetDreams calls = on(street, "again 20[call 0;];");
         due("he calls in 6 to 9", calls.night(0, 3), 4);
@@ -127,7 +129,7 @@ final class NightEdges extends Checks {
     }
 
     private static void comers() {
-        says("who comes in this MINUTE: is in his ROOM, if it is THERE; else LOST");
+        says("(c) who comes in this MINUTE: is in his ROOM, if it is THERE; else LOST");
         String street = "sleeper 5 9 0;dreamer 0 4;dreamer 0 5;dreamer 0 8;dreamer 0 9;";
         StreetDreams x = on(street);
         due("ahead of F", path(x, 0, 3, 6) + x.night(0, 0), "....4");
@@ -147,7 +149,7 @@ final class NightEdges extends Checks {
     }
 
     private static void byNumber() {
-        says("each DREAMER who is in (not who came in it), by number, does his WILL");
+        says("(d) each DREAMER who is in (not who came in it), by number, does his WILL");
         StreetDreams x = on(PAIR + "dreamer 0 5;", "call 0;");
         due("he came in 5, and calls in 6", row(m -> x.open(0, m), 4, 7), "0011");
         StreetDreams first = on(PAIR + "dreamer 0 5;dreamer 0 5;", "call 0;", "to 1;");
@@ -205,7 +207,7 @@ final class NightEdges extends Checks {
     }
 
     private static void turnsWithoutTime() {
-        says("an again that is come to, its BLOCK that ends, an until or an if that asks");
+        says("Of turns without time (an again that is come to, its BLOCK that ends, an until or an if that asks");
         // 21 turns each of the first two, 18 of the third: 60.
         String sixty = "again 20[];again 20[];again 17[];";
         due("60 and a call", turned(sixty + "call 0;"), 10);
@@ -377,7 +379,7 @@ final class NightEdges extends Checks {
     }
 
     private static void nightOfADreamer() {
-        says("0 the MINUTE in which he is LOST (NONE), 1 how often he went through a DOOR, 2 how often a \"to\" failed, "
+        says("Of a DREAMER's night: 0 the MINUTE in which he is LOST (NONE), 1 how often he went through a DOOR, 2 how often a \"to\" failed, "
             + "3 how often he called, 4 in how many MINUTES (behind them) another one was in his ROOM, "
             + "5 1 he does no more by too many turns, 0 not");
         StreetDreams x = on("sleeper 0 300 0;sleeper 0 300 0;door 0 1 1;dreamer 0 0;dreamer 1 3;",

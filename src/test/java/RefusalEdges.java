@@ -182,6 +182,7 @@ final class RefusalEdges extends Checks {
     }
 
     private static void minutes() {
+        says("MINUTES 0 to 300.");
         says("Whether a SLEEPER sleeps in a MINUTE. IllegalArgumentException: no such MINUTE (0 to 300; so below).");
         takesMinute("sleeps", (x, v) -> x.sleeps(0, v) ? 1 : 0);
         takesMinute("there", (x, v) -> x.there(0, v) ? 1 : 0);

@@ -322,7 +322,7 @@ final class TextEdges extends Checks {
         due("one step in place of another", will(z, 0, "wait 1;"), 1);
         due("the one ahead is gone", z.night(0, 3), 0);
         due("none in place of one", will(z, 0, ""), 0);
-        says("A WILL (of a DREAMER) is a text of up to 150 bytes");
+        says("A WILL (of a DREAMER) is a text of up to 150 bytes: { STEP \";\" }. STEP:");
         willTaken(padded("", 150), 0);
         willTaken(times(37, "to0;") + "  ", 37);
         willTaken("wait " + times(143, "0") + "7;", 1);
@@ -359,7 +359,7 @@ final class TextEdges extends Checks {
     }
 
     private static void sleepers() {
-        says("SLEEPERS, numbered from 0 on, 8 at most");
+        says("CLAUSE: \"sleeper\" F T W (SLEEPERS, numbered from 0 on, 8 at most");
         taken(times(7, ONE), 7);
         StreetDreams x = taken("sleeper 1 11 0;" + times(6, ONE) + "sleeper 7 17 0;", 8);
         due("the first is 0", x.sleeper(0, 0), 1);
@@ -409,7 +409,7 @@ final class TextEdges extends Checks {
     }
 
     private static void turns() {
-        says("(a NOISE of SORT K, 0 to 5, turns DOOR D: open ones shut, shut ones open; twice as once)");
+        says("\"turns\" K D (a NOISE of SORT K, 0 to 5, turns DOOR D: open ones shut, shut ones open; twice as once)");
         String street = TWO + "door 0 1 1;door 0 1 0;";
         StreetDreams x = taken(street + "turns 0 0;turns 5 1;turns 0 1;turns 0 0;turns 0 0;noise 4 0;", 2);
         due("0 and 5 are taken", x.door(0, 3) * 100 + x.door(1, 3), 133);
@@ -481,7 +481,8 @@ final class TextEdges extends Checks {
     }
 
     private static void milk() {
-        says("M and 1, ..; 0 to 300; the last counts; without: he does not come");
+        says("or \"milk\" M (the milkman wakes SLEEPERS 0, 1, .. in MINUTES M, M and 1, ..; 0 to 300; the last counts; "
+            + "without: he does not come)");
         due("0", taken("milk 0;", 0).told(5), 0);
         due("300", taken("milk 300;", 0).told(5), 300);
         faulty("milk 301;", 2, 5);

@@ -302,7 +302,7 @@ final class WayEdges extends Checks {
     }
 
     private static void fewestOfAlike() {
-        says("of all sets of SLEEPERS that hold all KEPT ones the fewest, of alike ones the least bits");
+        says("KEEP: of all sets of SLEEPERS that hold all KEPT ones the fewest, of alike ones the least bits");
         String gone = times(6, "sleeper 0 0 0;");
         String ends = "sleeper 0 300 0;sleeper 0 300 0;";
         StreetDreams two = on(gone + ends + "door 6 0 1;door 0 3 1;door 3 7 1;door 6 1 1;door 1 2 1;door 2 7 1;");
