@@ -17,6 +17,23 @@ abstract class Checks {
     private static int made;
     private static String part = "";
 
+    // ---- an end
+
+    /** Ends the run as failed if a call of the class does not end. */
+    static void watch() {
+        Thread watch = new Thread(() -> {
+            try {
+                Thread.sleep(120000);
+            } catch (InterruptedException e) {
+                return;
+            }
+            System.out.println(part + ": no end");
+            Runtime.getRuntime().halt(1);
+        });
+        watch.setDaemon(true);
+        watch.start();
+    }
+
     // ---- answers
 
     /** Names the promise, or what else the checks behind it are of. */

@@ -4,6 +4,7 @@
  */
 public final class EdgesTest extends Checks {
     public static void main(String[] args) throws Exception {
+        watch();
         TextEdges.all();
         NightEdges.all();
         WayEdges.all();
