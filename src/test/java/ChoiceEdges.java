@@ -575,6 +575,7 @@ final class ChoiceEdges extends Checks {
         roundIs("who came in 0 goes in 10", early, 0, 10);
         StreetDreams late = on(two + "dreamer 0 7;dreamer 0 300;dreamer 1 7;dreamer 1 200;milk 5;");
         roundIs("all who come behind the round", late, 4, 1);
+        roundIs("one behind it, one ahead of it", on(two + "dreamer 0 7;dreamer 0 2;milk 5;"), 2, 1);
         late.keep(2);
         roundIs("but for those of the kept room", late, 2, 1);
         late.keep(3);
