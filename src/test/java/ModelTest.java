@@ -28,7 +28,9 @@ public final class ModelTest {
     }
 
     public static void main(String[] args) throws Exception {
-        Checks.watch();
+        if (args.length == 0) {
+            Checks.watch();
+        }
         long first = args.length > 0 ? Long.parseLong(args[0]) : 1;
         long many = args.length > 1 ? Long.parseLong(args[1]) : 150;
         for (Method m : StreetDreams.class.getDeclaredMethods()) {
